@@ -1,0 +1,91 @@
+import java.lang.reflect.Constructor;
+import java.lang.reflect.Field;
+import java.lang.reflect.Method;
+import java.lang.reflect.Modifier;
+import java.util.Arrays;
+import java.util.TreeSet;
+
+/** The class shows the document's face and nothing else (rule 1 of LANGUAGE.md). */
+public final class FaceTest {
+    private static final String[] METHODS = {
+        "boolean cut()", "boolean drop()", "boolean spoil(int,int)", "boolean write(long)",
+        "int build(int) IllegalStateException",
+        "int find() IllegalArgumentException IllegalStateException",
+        "int first()", "int hit(int,int)", "int image(int)", "int letter(int,int)",
+        "int load() UnsupportedOperationException IllegalStateException",
+        "int map(int) IllegalArgumentException IllegalStateException",
+        "int occ(int,int)",
+        "int piece() IllegalArgumentException IllegalStateException",
+        "int record(int)", "int steps(int)", "int store() IllegalStateException",
+        "int suffix(int) IllegalStateException IndexOutOfBoundsException",
+        "int turned(int)",
+    };
+
+    private FaceTest() {
+    }
+
+    public static void main(String[] args) {
+        Checks checks = new Checks();
+        Class<?> face = ReadMapper.class;
+        checks.due("public and final", Modifier.toString(face.getModifiers()), "public final");
+        TreeSet<String> shown = new TreeSet<>();
+        TreeSet<String> publicNames = new TreeSet<>();
+        TreeSet<String> privateNames = new TreeSet<>();
+        for (Method m : face.getDeclaredMethods()) {
+            if (Modifier.isPrivate(m.getModifiers())) {
+                privateNames.add(m.getName());
+            } else {
+                shown.add(signature(m));
+                publicNames.add(m.getName());
+            }
+        }
+        checks.due("methods", shown, new TreeSet<>(Arrays.asList(METHODS)));
+        privateNames.retainAll(publicNames);
+        checks.due("private methods with a public name", privateNames, "[]");
+        checks.due("constructors", constructors(face), "[public ReadMapper()]");
+        checks.due("fields", fields(face), "[public static final int ReadMapper.NONE]");
+        checks.due("NONE", ReadMapper.NONE, -1);
+        checkNested(checks, face);
+        checks.end("FaceTest");
+    }
+
+    private static String signature(Method m) {
+        StringBuilder told = new StringBuilder(m.getReturnType() + " " + m.getName() + "(");
+        Class<?>[] parameters = m.getParameterTypes();
+        for (int i = 0; i < parameters.length; i++) {
+            told.append(i == 0 ? "" : ",").append(parameters[i]);
+        }
+        told.append(")");
+        for (Class<?> thrown : m.getExceptionTypes()) {
+            told.append(" ").append(thrown.getSimpleName());
+        }
+        return told.toString();
+    }
+
+    private static TreeSet<String> constructors(Class<?> face) {
+        TreeSet<String> shown = new TreeSet<>();
+        for (Constructor<?> c : face.getDeclaredConstructors()) {
+            shown.add(c.toString());
+        }
+        return shown;
+    }
+
+    private static TreeSet<String> fields(Class<?> face) {
+        TreeSet<String> shown = new TreeSet<>();
+        for (Field f : face.getDeclaredFields()) {
+            if (!Modifier.isPrivate(f.getModifiers())) {
+                shown.add(f.toString());
+            }
+        }
+        return shown;
+    }
+
+    private static void checkNested(Checks checks, Class<?> face) {
+        for (Class<?> nested : face.getDeclaredClasses()) {
+            int modifiers = nested.getModifiers();
+            checks.due(nested + " is static", Modifier.isStatic(modifiers), true);
+            checks.due(nested + " is hidden",
+                    Modifier.isPublic(modifiers) || Modifier.isProtected(modifiers), false);
+        }
+    }
+}
