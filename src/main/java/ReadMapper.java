@@ -195,11 +195,12 @@ public final class ReadMapper {
     }
 
     public boolean spoil(int b, int bits) {
+        int old = imageBytes.at(b);
         int flips = bits & 255;
-        if (!imageBytes.has(b) || flips == 0) {
+        if (old == NONE || flips == 0) {
             return false;
         }
-        imageBytes.set(b, imageBytes.at(b) ^ flips);
+        imageBytes.set(b, old ^ flips);
         return true;
     }
 
@@ -325,16 +326,12 @@ public final class ReadMapper {
             return codes.length - length;
         }
 
-        boolean has(int i) {
-            return i >= 0 && i < length;
-        }
-
         int at(int i) {
-            return has(i) ? codes[i] : NONE;
+            return i >= 0 && i < length ? codes[i] : NONE;
         }
 
         void set(int i, int code) {
-            if (has(i)) {
+            if (i >= 0 && i < length) {
                 codes[i] = code;
             }
         }
