@@ -32,15 +32,6 @@ final class Checks {
         return w;
     }
 
-    static String recordOf(ReadMapper x, int j) {
-        StringBuilder line = new StringBuilder();
-        int length = x.record(j);
-        for (int c = 0; c < length; c++) {
-            line.append((char) x.letter(j, c));
-        }
-        return line.toString();
-    }
-
     void due(String what, Object got, Object want) {
         made++;
         if (!String.valueOf(got).equals(String.valueOf(want))) {
@@ -53,6 +44,15 @@ final class Checks {
     void taken(ReadMapper x, String text, Supplier<Object> call, Object want) {
         say(x, text);
         due("after '" + text + "'", told(call), want);
+    }
+
+    void throwing(String what, Supplier<Object> call, Object want) {
+        due(what, told(call), want);
+    }
+
+    /** Something was compared, and nothing was wrong. */
+    boolean allRight() {
+        return made > 0 && wrong == 0;
     }
 
     void end(String name) {

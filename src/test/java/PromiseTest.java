@@ -1,14 +1,8 @@
+import java.util.Arrays;
 import java.util.function.Supplier;
 
 /** Each promise of the document: ordinary inputs, its edges, and wrong inputs. */
-public final class PromiseTest {
-    private static final String ARGUMENT = "IllegalArgumentException";
-    private static final String STATE = "IllegalStateException";
-    private static final String BOUNDS = "IndexOutOfBoundsException";
-    private static final String UNSUPPORTED = "UnsupportedOperationException";
-    private static final int LOW = Integer.MIN_VALUE;
-    private static final int HIGH = Integer.MAX_VALUE;
-
+public final class PromiseTest extends Mappers {
     private static final Checks CHECKS = new Checks();
 
     private PromiseTest() {
@@ -52,35 +46,8 @@ public final class PromiseTest {
         CHECKS.due(what, Checks.told(call), want);
     }
 
-    private static ReadMapper withPieces(String... pieces) {
-        ReadMapper x = new ReadMapper();
-        for (int p = 0; p < pieces.length; p++) {
-            CHECKS.taken(x, pieces[p], x::piece, p);
-        }
-        return x;
-    }
-
-    private static ReadMapper built(int rate, String... pieces) {
-        ReadMapper x = withPieces(pieces);
-        x.build(rate);
-        return x;
-    }
-
-    /** The row ACA$GA#, whose endings were sorted by hand. */
-    private static ReadMapper small(int rate) {
-        return built(rate, "a:ACA", "b:GA");
-    }
-
     private static void map(ReadMapper x, String read, int k, Object want) {
         CHECKS.taken(x, read, () -> x.map(k), want);
-    }
-
-    private static String image(ReadMapper x) {
-        StringBuilder told = new StringBuilder();
-        for (int b = 0; x.image(b) != ReadMapper.NONE; b++) {
-            told.append(b == 0 ? "" : " ").append(x.image(b));
-        }
-        return told.toString();
     }
 
     private static void newObject() {
@@ -121,11 +88,6 @@ public final class PromiseTest {
         due("write of 126", x.write(126L), true);
         throwing("~ is no base", x::find, ARGUMENT);
         writeLimits();
-    }
-
-    private static int found(ReadMapper x, String bases) {
-        Checks.say(x, bases);
-        return x.find();
     }
 
     private static void writeLimits() {
@@ -387,7 +349,7 @@ public final class PromiseTest {
             throwing("the text was taken", () -> x.map(0), ARGUMENT);
         }
         due("what throws leaves the hits", x.hit(2, 1), 5);
-        due("what throws leaves the read", Checks.recordOf(x, 2), "r\t0\tp1\t5\t17\t4M\t*\t0\t0\tACGA\t*\tNM:i:0\tMD:Z:4");
+        due("what throws leaves the read", recordOf(x, 2), "r\t0\tp1\t5\t17\t4M\t*\t0\t0\tACGA\t*\tNM:i:0\tMD:Z:4");
         x.drop();
         map(x, "r:A", 0, STATE);
         throwing("the text was taken", () -> x.map(0), ARGUMENT);
@@ -433,19 +395,19 @@ public final class PromiseTest {
         };
         for (int j = 0; j < 3; j++) {
             due("record(" + j + ")", x.record(j), due[j].length());
-            due("record " + j, Checks.recordOf(x, j), due[j]);
+            due("record " + j, recordOf(x, j), due[j]);
         }
         for (int j : new int[] {3, -1, LOW, HIGH}) {
             due("record(" + j + ")", x.record(j), -1);
         }
         map(x, "r1:ACGA", 0, 1);
-        due("alone", Checks.recordOf(x, 0), "r1\t0\tp1\t5\t37\t4M\t*\t0\t0\tACGA\t*\tNM:i:0\tMD:Z:4");
+        due("alone", recordOf(x, 0), "r1\t0\tp1\t5\t37\t4M\t*\t0\t0\tACGA\t*\tNM:i:0\tMD:Z:4");
         ReadMapper n = built(0, "chr_1:GGGGGGGGGGACNGG");
         map(n, "a:ATNGG", 2, 1);
-        due("N differs", Checks.recordOf(n, 0),
+        due("N differs", recordOf(n, 0),
                 "a\t0\tchr_1\t11\t37\t5M\t*\t0\t0\tATNGG\t*\tNM:i:2\tMD:Z:1C0N2");
         map(n, "a:CCNAT:abcde", 2, 1);
-        due("turned", Checks.recordOf(n, 0),
+        due("turned", recordOf(n, 0),
                 "a\t16\tchr_1\t11\t37\t5M\t*\t0\t0\tATNGG\tedcba\tNM:i:2\tMD:Z:1C0N2");
         longestRecord();
     }
@@ -453,7 +415,7 @@ public final class PromiseTest {
     private static void longestRecord() {
         ReadMapper x = built(0, "longname:" + "A".repeat(20) + "CGAACGTNACGTACGTTGCA" + "C".repeat(20));
         map(x, "readname:TGCAACGTACGTAACGTTCG:ABCDEFGHIJKLMNOPQRST", 3, 1);
-        due("long and turned", Checks.recordOf(x, 0), "readname\t16\tlongname\t21\t37\t20M\t*\t0\t0\t"
+        due("long and turned", recordOf(x, 0), "readname\t16\tlongname\t21\t37\t20M\t*\t0\t0\t"
                 + "CGAACGTTACGTACGTTGCA\tTSRQPONMLKJIHGFEDCBA\tNM:i:1\tMD:Z:7N12");
     }
 
@@ -461,11 +423,11 @@ public final class PromiseTest {
         ReadMapper x = lone();
         due("nothing mapped", x.record(0), -1);
         map(x, "r_2:GGGN", 0, 0);
-        due("record", Checks.recordOf(x, 0), "r_2\t4\t*\t0\t0\t*\t*\t0\t0\tGGGN\t*");
+        due("record", recordOf(x, 0), "r_2\t4\t*\t0\t0\t*\t*\t0\t0\tGGGN\t*");
         due("only one", x.record(1), -1);
         due("none before it", x.record(-1), -1);
         map(x, "r_3:GGCN:!~I5", 0, 0);
-        due("record", Checks.recordOf(x, 0), "r_3\t4\t*\t0\t0\t*\t*\t0\t0\tGGCN\t!~I5");
+        due("record", recordOf(x, 0), "r_3\t4\t*\t0\t0\t*\t*\t0\t0\tGGCN\t!~I5");
         x.store();
         x.load();
         due("loaded: nothing mapped", x.record(0), -1);
@@ -477,20 +439,20 @@ public final class PromiseTest {
         for (int more = 0; more < qualities.length; more++) {
             ReadMapper x = built(0, "p:" + "A".repeat(more + 1) + "C");
             map(x, "r:AC", 1, more + 1);
-            due("quality with " + more, Checks.recordOf(x, more).split("\t")[4], qualities[more]);
-            due("of all hits", Checks.recordOf(x, 0).split("\t")[4], qualities[more]);
+            due("quality with " + more, field(x, more, 4), qualities[more]);
+            due("of all hits", field(x, 0, 4), qualities[more]);
         }
         ReadMapper x = built(0, "p:ACAAC");
         map(x, "r:AC", 1, 3);
-        due("several are best", Checks.recordOf(x, 0).split("\t")[4], 0);
-        due("the first is the best", Checks.recordOf(x, 0).split("\t")[1], 0);
-        due("the last is not", Checks.recordOf(x, 2).split("\t")[1], 256);
+        due("several are best", field(x, 0, 4), 0);
+        due("the first is the best", field(x, 0, 1), 0);
+        due("the last is not", field(x, 2, 1), 256);
         ReadMapper gap = built(0, "p:AAAGGG");
         map(gap, "r:AAA", 2, 3);
-        due("one more", Checks.recordOf(gap, 0).split("\t")[4], 20);
+        due("one more", field(gap, 0, 4), 20);
         ReadMapper far = built(0, "p:AAA", "q:AGG");
         map(far, "r:AAA", 2, 2);
-        due("two more are none", Checks.recordOf(far, 0).split("\t")[4], 37);
+        due("two more are none", field(far, 0, 4), 37);
     }
 
     private static void letter() {
@@ -513,11 +475,6 @@ public final class PromiseTest {
 
     private static final String SMALL_IMAGE =
             "70 77 1 2 1 97 3 1 98 2 2 2 2 4 3 0 2 1 6 2 0 4 88 49 70 85";
-
-    private static ReadMapper largest(int rate) {
-        return built(rate, "name0001:" + "ACGTN".repeat(11) + "A", "name0002:A", "name0003:C", "name0004:G",
-                "name0005:T");
-    }
 
     private static void store() {
         ReadMapper x = small(1);
@@ -594,7 +551,7 @@ public final class PromiseTest {
         due("nothing looked for", x.first(), -1);
         found(x, "A");
         map(x, "r:AC", 0, 1);
-        due("the pieces' names", Checks.recordOf(x, 0).split("\t")[2], "a");
+        due("the pieces' names", field(x, 0, 2), "a");
         CHECKS.taken(x, "c:T", x::piece, STATE);
         throwing("load into a ready index", x::load, 7);
         due("nothing looked for", x.first(), -1);
@@ -640,7 +597,7 @@ public final class PromiseTest {
         }
         due("what throws leaves what was found", y.first(), 4);
         due("what throws leaves the hits", y.hit(0, 1), 1);
-        due("what throws leaves the names", Checks.recordOf(y, 0).split("\t")[2], "a");
+        due("what throws leaves the names", field(y, 0, 2), "a");
         due("what throws leaves the rate", y.steps(1), 1);
         due("what throws leaves the turned row", y.turned(2), 4);
         y.store();
@@ -652,29 +609,11 @@ public final class PromiseTest {
         throwing("the one named first", both::load, UNSUPPORTED);
     }
 
-    /** Makes the image the given bytes, with the right sum behind them. */
-    private static ReadMapper forged(int... bytes) {
-        ReadMapper x = built(0, "longname:" + "A".repeat(60));
-        x.store();
-        while (x.image(bytes.length + 4) != ReadMapper.NONE) {
-            x.cut();
-        }
-        int sum = 17;
-        for (int b = 0; b < bytes.length; b++) {
-            x.spoil(b, x.image(b) ^ bytes[b]);
-            sum = 31 * sum + bytes[b];
-        }
-        for (int b = 0; b < 4; b++) {
-            x.spoil(bytes.length + b, x.image(bytes.length + b) ^ sum >>> 24 - 8 * b & 255);
-        }
-        return x;
-    }
-
     private static void loads(String what, Object want, int... bytes) {
-        ReadMapper x = forged(bytes);
+        ReadMapper x = forged(Arrays.stream(bytes).boxed().toList());
         throwing(what, x::load, want);
         if (STATE.equals(want)) {
-            due(what + ": the index stays", x.occ(2, 61), 60);
+            due(what + ": the index stays", x.occ(2, 65), 13);
         }
     }
 
