@@ -76,6 +76,17 @@ public final class LoadBoundaryTest extends Mappers {
         c.due("the turned row", turnedRow(x, 7), "[2, 2, 4, 3, 0, 2, 1]");
     }
 
+    @Boundary("Loads the index, whether it is empty or not")
+    private static void loadAgainAndAgainAfterALargerIndex(Checks c) {
+        ReadMapper x = forged(SMALL);
+        for (int times = 0; times < 4; times++) {
+            c.throwing("ACA$GA#", x::load, 7);
+            c.due("its endings", suffixes(x, 7), "[6, 3, 5, 2, 0, 1, 4]");
+            c.due("its turned row", turnedRow(x, 7), "[2, 2, 4, 3, 0, 2, 1]");
+            c.due("no more of the larger one", x.turned(7), -1);
+        }
+    }
+
     @Boundary("take the place of all that are there")
     private static void loadTakesThePlaceOfMorePieces(Checks c) {
         ReadMapper x = stored(0, "a:ACA");
