@@ -3,9 +3,10 @@ import java.lang.reflect.Field;
 import java.lang.reflect.Method;
 import java.lang.reflect.Modifier;
 import java.util.Arrays;
+import java.util.List;
 import java.util.TreeSet;
 
-/** The class shows the document's face and nothing else (rule 1 of LANGUAGE.md). */
+/** The class shows the document's face and nothing else, and keeps no static state (rules 1 and 5). */
 public final class FaceTest {
     private static final String[] METHODS = {
         "boolean cut()", "boolean drop()", "boolean spoil(int,int)", "boolean write(long)",
@@ -31,12 +32,13 @@ public final class FaceTest {
         TreeSet<String> shown = new TreeSet<>();
         TreeSet<String> publicNames = new TreeSet<>();
         TreeSet<String> privateNames = new TreeSet<>();
+        for (Method m : shownMethods()) {
+            shown.add(signature(m));
+            publicNames.add(m.getName());
+        }
         for (Method m : face.getDeclaredMethods()) {
             if (Modifier.isPrivate(m.getModifiers())) {
                 privateNames.add(m.getName());
-            } else {
-                shown.add(signature(m));
-                publicNames.add(m.getName());
             }
         }
         checks.due("methods", shown, new TreeSet<>(Arrays.asList(METHODS)));
@@ -46,7 +48,17 @@ public final class FaceTest {
         checks.due("fields", fields(face), "[public static final int ReadMapper.NONE]");
         checks.due("NONE", ReadMapper.NONE, -1);
         checkNested(checks, face);
+        checkStatics(checks, face);
+        for (Class<?> nested : face.getDeclaredClasses()) {
+            checkStatics(checks, nested);
+        }
         checks.end("FaceTest");
+    }
+
+    static List<Method> shownMethods() {
+        return Arrays.stream(ReadMapper.class.getDeclaredMethods())
+                .filter(m -> !Modifier.isPrivate(m.getModifiers()))
+                .toList();
     }
 
     private static String signature(Method m) {
@@ -86,6 +98,15 @@ public final class FaceTest {
             checks.due(nested + " is static", Modifier.isStatic(modifiers), true);
             checks.due(nested + " is hidden",
                     Modifier.isPublic(modifiers) || Modifier.isProtected(modifiers), false);
+        }
+    }
+
+    /** Rule 5: what is static never changes, so that no object knows of another. */
+    private static void checkStatics(Checks checks, Class<?> owner) {
+        for (Field f : owner.getDeclaredFields()) {
+            if (Modifier.isStatic(f.getModifiers())) {
+                checks.due(f + " is final", Modifier.isFinal(f.getModifiers()), true);
+            }
         }
     }
 }

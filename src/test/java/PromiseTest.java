@@ -10,6 +10,7 @@ public final class PromiseTest extends Mappers {
 
     public static void main(String[] args) {
         newObject();
+        newObjectBesideAnother();
         write();
         piece();
         pieceLimits();
@@ -70,6 +71,29 @@ public final class PromiseTest extends Mappers {
         due("new: spoil", x.spoil(0, 1), false);
         due("new: cut", x.cut(), false);
         throwing("new: load", x::load, UNSUPPORTED);
+    }
+
+    private static void newObjectBesideAnother() {
+        ReadMapper used = stored(1, "a:ACA", "b:GA");
+        found(used, "CA");
+        mapped(used, "r:CA:12", 0);
+        String before = seen(used);
+        Checks.say(used, "A");
+        ReadMapper x = new ReadMapper();
+        throwing("another's text is not here", x::find, ARGUMENT);
+        throwing("nor are its pieces", () -> x.build(0), STATE);
+        throwing("nor is its index", () -> x.suffix(0), STATE);
+        due("nor what it looked for", x.first(), -1);
+        due("nor its read", x.record(0), -1);
+        due("nor its image", x.image(0), -1);
+        CHECKS.taken(x, "a:TTTT", x::piece, 0);
+        throwing("the row TTTT#", () -> x.build(7), 5);
+        map(x, "s:TT", 0, 3);
+        throwing("an image of its own", x::store, 18);
+        throwing("which it loads", x::load, 5);
+        throwing("the other's text stays", used::find, 3);
+        found(used, "CA");
+        due("and all else of it", seen(used), before);
     }
 
     private static void write() {
